@@ -818,7 +818,7 @@ public final class NineBreakages {
           stack[top] = step < FIRST_NAME ? step : named(step - FIRST_NAME, a, b, c);
           top++;
         } else if (step == FIRST_SIGN + '!' && top >= 1) {
-          stack[top - 1] = bit(stack[top - 1] == 0);
+          stack[top - 1] = stack[top - 1] == 0 ? 1 : 0;
         } else if (top >= 2) {
           top--;
           stack[top - 1] = joined(step - FIRST_SIGN, stack[top - 1], stack[top]);
@@ -844,15 +844,15 @@ public final class NineBreakages {
         case '%':
           return q == 0 ? 0 : p % q;
         case '<':
-          return bit(p < q);
+          return p < q ? 1 : 0;
         case '=':
-          return bit(p == q);
+          return p == q ? 1 : 0;
         case '>':
-          return bit(p > q);
+          return p > q ? 1 : 0;
         case '&':
-          return bit(p != 0 && q != 0);
+          return p != 0 && q != 0 ? 1 : 0;
         default:
-          return bit(p != 0 || q != 0);
+          return p != 0 || q != 0 ? 1 : 0;
       }
     }
   }
@@ -1044,7 +1044,7 @@ public final class NineBreakages {
       ways[0] = 1;
       for (int i = 0; i < house.pieces; i++) {
         if (isLeft(house, i, person)) {
-          int risk = house.riskIn(i, person);
+          int risk = house.riskBy(i, house.care[person]);
           for (int n = PIECES_MOST; n > 0; n--) {
             ways[n] = ways[n] * (16 - risk) + ways[n - 1] * risk;
           }
@@ -1067,9 +1067,9 @@ public final class NineBreakages {
 
     int safestFor(House house, int piece) {
       int who = 0;
-      int least = house.riskIn(piece, 0);
+      int least = house.riskBy(piece, house.care[0]);
       for (int i = 1; i < house.people; i++) {
-        int risk = house.riskIn(piece, i);
+        int risk = house.riskBy(piece, house.care[i]);
         if (risk < least) {
           who = i;
           least = risk;

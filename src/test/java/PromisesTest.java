@@ -54,6 +54,7 @@ public final class PromisesTest {
     check();
     count();
     told();
+    toldByEachAct();
     toldIsOnlyErrors();
     Due.end("PromisesTest");
   }
@@ -584,11 +585,15 @@ public final class PromisesTest {
     gives("c|b", 0, -5, 0, 1);
     gives("c|b", 6, 3, 0, 1);
     gives("c&b", 6, 9, 0, 1);
+    gives("c&b", 1, 1, 0, 1);
+    gives("c|b", 1, 1, 0, 1);
     gives("c&b", 6, 0, 0, 0);
     gives("c&b", 4, 3, 0, 1);
     gives("0&0|1", 0, 0, 0, 1);
     gives("1|1&0", 0, 0, 0, 1);
     gives("c|b&p", 1, 0, 0, 1);
+    gives("(c|b)&p", 1, 0, 0, 0);
+    gives("(c&b)+(c<b)*2+(b>c)*4", 1, 2, 0, 7);
     gives("1<2&2<1", 0, 0, 0, 0);
     gives("1+1<3", 0, 0, 0, 1);
     gives("!c", 0, 0, 0, 1);
@@ -701,10 +706,19 @@ public final class PromisesTest {
     is("none had", jugs.personIs(0, 2), 0);
     NineBreakages many = with(0, 9, 29, 24);
     is("risk 9 and 7", many.risk(0, 0) * 100 + many.risk(1, 0), 907);
-    many.seed(12);
-    int[] want = byDraws(12, 4, new int[] {9, 7});
-    is("four days", many.loose(4), want[0]);
-    is("z", many.count(7), want[1]);
+    many.image();
+    for (int seed : new int[] {12, -1, 77, -123456789, Integer.MIN_VALUE, Integer.MAX_VALUE, 99, 4711, 815}) {
+      many.restore();
+      many.seed(seed);
+      int[] want = byDraws(seed, 1, new int[] {9, 7});
+      is("a day", many.loose(1), want[0]);
+      is("z behind a day", many.count(7), want[1]);
+      many.restore();
+      many.seed(seed);
+      want = byDraws(seed, 4, new int[] {9, 7});
+      is("four days", many.loose(4), want[0]);
+      is("z behind four days", many.count(7), want[1]);
+    }
     NineBreakages tureen = with(0, 9, 9, 53);
     Due.text(tureen, 0, "(r=7)*16+(r=19)*16");
     is("a tureen's risk is of the shards ahead in the day", tureen.loose(1), 2);
@@ -801,6 +815,12 @@ public final class PromisesTest {
     fraction(nine, 0, 9, 1, 1L << 36);
     fraction(nine, 0, 0, 38443359375L, 1L << 36);
     fraction(nine, 0, 1, 9 * 2562890625L, 1L << 36);
+    NineBreakages even = with(9, 0, 7, 7, 7, 7, 7, 7, 7, 7, 7);
+    fraction(even, 0, 0, 1, 512);
+    fraction(even, 0, 4, 63, 256);
+    NineBreakages sure = with(0, 0, 9, 9, 9, 9, 9, 9, 9, 9, 9);
+    fraction(sure, 0, 9, 1, 1);
+    fraction(sure, 0, 8, 0, 1);
     nine.person(0, 3);
     fraction(nine, 1, 0, 1, 1);
     nine.lend(4, 1);
@@ -832,6 +852,9 @@ public final class PromisesTest {
     x.drop(2);
     is("more than told above", x.through(0, 0), 1);
     is("more than told below", x.through(0, 1), 1);
+    NineBreakages all = with(9, 9, 1, 1, 1, 1, 1, 1, 1, 1, 1);
+    is("all nine above", all.through(0, 0), 1);
+    is("all nine below", all.through(0, 1), 1L << 27);
     x.person(0, 9);
     is("never above", x.through(1, 0), 0);
     is("never below", x.through(1, 1), 1);
@@ -896,6 +919,9 @@ public final class PromisesTest {
       is("saves person " + v, x.saves(v, 0), BEYOND);
     }
     is("none walled by it", x.pieceIs(2, 3), 0);
+    NineBreakages all = with(4, 1, 1, 1, 1, 1, 1, 1, 1, 1, 1);
+    is("all nine", all.saves(0, 0), 9);
+    is("all nine, the set", all.saves(0, 1), 511);
   }
 
   // Promise 25
@@ -989,6 +1015,7 @@ public final class PromisesTest {
     says(2, 45, 0, 7, 15, 50, 20, 10);
     says(2, 45, 1, 7, 30, 11, 50, 20, 10);
     says(2, 45, 2, 7, 25 ^ 2, 51, 12, 11, 50, 20, 10);
+    says(2, 45, 2, 8, 31 ^ 2, 51, 12, 11, 50, 20, 10);
     says(2, 45, 3, 7, -4, 21, 13, 11, 50, 20, 10);
     says(2, 55, 0, 7, 9, 10);
     says(2, 55, 1, 7, -20, 60, 30, 11, 10);
@@ -1233,6 +1260,7 @@ public final class PromisesTest {
     x.days(3);
     x.seed(5);
     x.tell(0);
+    x.tell(7);
     Due.feed(x, "1+2");
     x.wall(1, 1);
     x.sheet(0, 8, 1);
@@ -1240,6 +1268,7 @@ public final class PromisesTest {
     x.image();
     Due.feed(x, "+c");
     x.text(1);
+    Due.feed(x, "99999");
     x.untell(0);
     x.days(1);
     x.seed(6);
@@ -1261,7 +1290,7 @@ public final class PromisesTest {
     is("people", x.count(1), 1);
     is("shards", x.count(3), 0);
     is("tape", x.count(4), 3);
-    is("waiting", x.count(5), 1);
+    is("waiting", x.count(5), 2);
     is("z", x.count(7), 5);
     is("care", x.personIs(0, 0), 4);
     is("had", x.personIs(0, 2), 0);
@@ -1271,7 +1300,7 @@ public final class PromisesTest {
     is("walled", x.pieceIs(1, 3), 2);
     is("text 0", x.law(0, 0, 0, 0), 7);
     is("text 1", x.untell(1), 0);
-    is("what waits", x.check(), 0);
+    is("what waits", x.check(), 2);
     is("the tape's bytes", x.text(1), 1);
     is("1+2", x.law(1, 0, 0, 0), 3);
     is("sheets are not kept", x.put(0, 0, 0), BEYOND);
@@ -1393,6 +1422,64 @@ public final class PromisesTest {
     }
     is("counted too", x.told(1), 8);
   }
+
+  /** Each act that answers an ERROR is counted, by that ERROR alone. */
+  private static void toldByEachAct() {
+    NineBreakages x = with(4, 3, 0, 0);
+    x.drop(1);
+    x.person(4, 0);
+    x.sheet(0, 8, 1);
+    x.sheet(1, 16, 1);
+    counted(x, 1, x.person(10, 0), x.personIs(9, 0), x.personIs(0, 9), x.piece(70, 0), x.pieceIs(9, 0));
+    counted(x, 1, x.pieceIs(0, 9), x.become(9, 0), x.as(9, 0), x.minds(9, 0), x.lend(9, 0), x.wall(9, 0));
+    counted(x, 1, x.risk(9, 0), x.drop(9), x.feed(0, 9), x.text(9), x.untell(9), x.law(9, 0, 0, 0), x.days(0));
+    counted(x, 1, x.loose(0), x.left(9, 0), x.left(0, 9), x.odds(9, 0, 0), x.through(9, 0), x.safest(9, 0));
+    counted(x, 1, x.saves(9, 0), x.counts(9), x.fits(9, 0, 0), x.voice(9, 0, 0), x.sheet(9, 0, 0));
+    counted(x, 1, x.sheet(0, 8, 25), x.put(9, 0, 0), x.put(0, 9, 0), x.move(9, 0, 0, 0, 0), x.move(0, 9, 0, 0, 0));
+    counted(x, 1, x.cares(9), x.judge(9), x.count(9), x.told(9));
+    counted(x, 2, x.fits(3, 0, 0), x.body(9), x.put(3, 0, 0), x.move(0, 0, 3, 0, 0), x.cares(3), x.judge(3));
+    x.sheet(2, 8, 1);
+    x.become(0, 69);
+    x.put(2, 0, 99);
+    counted(x, 2, x.restore(), x.counts(0), x.fits(2, 0, 1));
+    counted(x, 3, x.wall(1, 0), x.drop(1), x.saves(1, 0), x.sheet(0, 8, -1));
+    counted(x, 5, x.as(0, 1), x.move(0, 0, 1, 0, 1));
+    x.become(1, 1);
+    counted(x, 6, x.voice(1, 3, 0));
+    for (int i = 0; i < 170; i++) {
+      x.days(60);
+      x.piece(0, 0);
+      x.person(0, 0);
+      x.tell(0);
+    }
+    is("STATE by days", x.told(3), 4 + 4);
+    NineBreakages full = with(0, 0);
+    for (int i = 0; i < 20; i++) {
+      full.piece(0, 0);
+      full.person(0, 0);
+      full.feed(0, 4);
+    }
+    is("FULL", full.told(4), 11 + 16 + 5);
+    NineBreakages late = with(0, 0);
+    for (int i = 0; i < 166; i++) {
+      late.days(60);
+    }
+    late.days(38);
+    late.loose(1);
+    is("no STATE yet", late.told(3), 0);
+    late.loose(1);
+    is("STATE by draws", late.told(3), 1);
+  }
+
+  private static void counted(NineBreakages x, int k, long... answers) {
+    for (long answer : answers) {
+      is("an ERROR " + k, answer, -1000000000L - k);
+      errorsDue[k]++;
+    }
+    is("how many ERRORS " + k, x.told(k), errorsDue[k]);
+  }
+
+  private static final int[] errorsDue = new int[7];
 
   /** Numbers that look like an ERROR, and a FAULT, are none. */
   private static void toldIsOnlyErrors() {
