@@ -42,6 +42,15 @@ final class Due {
     }
   }
 
+  /** Lets days go by till a day; an object has 512 calls in all, so none is spent on asking for the day again. */
+  static NineBreakages onDay(int day, NineBreakages x) {
+    int now = x.count(2);
+    while (now < day) {
+      now = x.days(Math.min(60, day - now));
+    }
+    return x;
+  }
+
   static int text(NineBreakages x, int use, String text) {
     feed(x, text);
     return x.text(use);

@@ -1448,18 +1448,16 @@ public final class PromisesTest {
     counted(x, 6, x.voice(1, 3, 0));
     for (int i = 0; i < 170; i++) {
       x.days(60);
-      x.piece(0, 0);
-      x.person(0, 0);
-      x.tell(0);
     }
     is("STATE by days", x.told(3), 4 + 4);
     NineBreakages full = with(0, 0);
-    for (int i = 0; i < 20; i++) {
+    for (int i = 0; i < 30; i++) {
       full.piece(0, 0);
       full.person(0, 0);
       full.feed(0, 4);
+      full.tell(0);
     }
-    is("FULL", full.told(4), 11 + 16 + 5);
+    is("FULL", full.told(4), 21 + 26 + 15 + 6);
     NineBreakages late = with(0, 0);
     for (int i = 0; i < 166; i++) {
       late.days(60);
