@@ -19,6 +19,7 @@ public final class EdgesTest {
   public static void main(String[] args) {
     errors();
     orderOfErrors();
+    quotients();
     daysAndPeople();
     piecesAndSlips();
     countingAndBreaking();
@@ -132,6 +133,16 @@ public final class EdgesTest {
     is("loose: STATE", x.loose(30), STATE);
   }
 
+  private static void quotients() {
+    says(0, "Quotients are cut toward 0.");
+    is("a boat's 11 by 2", with(4, 9, 25).risk(0, 0), 5);
+    is("a text's -7 by 2", by(1, "c/2+9", new NineBreakages()).law(1, -7, 0, 0), 6);
+    is("a text's 7 by -2", by(1, "7/c+9", new NineBreakages()).law(1, -2, 0, 0), 6);
+    is("a voice's -7 by 2", speaker(0, 2).voice(0, 3, -7), -3);
+    is("a voice's 7 by -2", speaker(2, 0).voice(2, 3, 7), -3);
+    is("a plate's -7 by 2", speaker(0, 30).voice(0, 2, -7), -6);
+  }
+
   private static void daysAndPeople() {
     says(0, "DAY (0 .. 9999; 0 at first).");
     NineBreakages x = new NineBreakages();
@@ -192,6 +203,15 @@ public final class EdgesTest {
     says(0, "SHARDS: how many PIECES are BROKEN.");
     is("walled ones are none", x.count(3), 1);
     is("none at first", with(4, 9, 0).count(3), 0);
+    says(0, "SLIPS (in somebody's hands): PIECE: 10 less CARE, and m. CUP: as PIECE, and 3.");
+    is("the least of a piece", with(9, 9, 0).risk(0, 0), 1);
+    is("the most of a piece, held", with(0, 9, 9).risk(0, 0), 16);
+    is("a piece's 16", with(0, 9, 6).risk(0, 0), 16);
+    is("a piece's 15", with(0, 9, 5).risk(0, 0), 15);
+    is("the least of a cup", with(9, 9, 10).risk(0, 0), 4);
+    says(0, "PLATE: as PIECE, less m.");
+    is("the least of a plate", with(9, 9, 39).risk(0, 0), 1);
+    is("the most of a plate", with(0, 9, 39).risk(0, 0), 10);
     says(0, "BOAT: half of PIECE's (cut).");
     is("of 11", with(4, 9, 25).risk(0, 0), 5);
     is("of 1", with(9, 9, 20).risk(0, 0), 0);

@@ -4,7 +4,7 @@ import java.util.List;
 /**
  * "One that answers an ERROR changes nothing but what told() tells, or where told": each refused call is made on one
  * of two objects that are alike, and then all that can be seen of both, what the TAPE holds, what waits, the SHEETS
- * and the IMAGE too, must be the same, but for told(k), which is one more.
+ * and the IMAGE too, must be the same, but for told(k), which is one more. So are calls that only ask.
  */
 public final class RefusedTest {
   private static final int BEYOND = 1;
@@ -27,6 +27,8 @@ public final class RefusedTest {
   private RefusedTest() {}
 
   public static void main(String[] args) {
+    String sentence = "one that answers an ERROR changes nothing but what told() tells, or where told.";
+    Due.is("the document says: " + sentence, Doc.says(0, sentence) ? 1 : 0, 1);
     peopleAndPieces();
     textsAndDays();
     thoughts();
@@ -34,6 +36,7 @@ public final class RefusedTest {
     fullOnes();
     lateOnes();
     withoutAnImage();
+    onlyThought();
     Due.end("RefusedTest");
   }
 
@@ -112,6 +115,18 @@ public final class RefusedTest {
     NineBreakages spared = scene.made();
     NineBreakages asked = scene.made();
     Due.is(name + " is refused", call.on(asked), -1000000000L - k);
+    alike(name, spared, asked, k);
+  }
+
+  /** A call that answers no ERROR, and does nothing. */
+  private static void asks(String name, Call call) {
+    NineBreakages spared = some();
+    NineBreakages asked = some();
+    Due.is(name + " is answered", call.on(asked) > -1000000000L ? 1 : 0, 1);
+    alike(name, spared, asked, 0);
+  }
+
+  private static void alike(String name, NineBreakages spared, NineBreakages asked, int k) {
     for (int i = 1; i <= 6; i++) {
       Due.is(name + ", told " + i, asked.told(i) - spared.told(i), i == k ? 1 : 0);
     }
@@ -325,5 +340,40 @@ public final class RefusedTest {
 
   private static void withoutAnImage() {
     refused(RefusedTest::withoutImage, "restore without an image", NONE, x -> x.restore());
+  }
+
+  private static void onlyThought() {
+    String sentence = "(All this is only thought.)";
+    Due.is("the document says: " + sentence, Doc.says(0, sentence) ? 1 : 0, 1);
+    for (int part = 0; part < 2; part++) {
+      int what = part;
+      for (int i = 0; i < 3; i++) {
+        int person = i;
+        asks("left(" + i + ", " + what + ")", x -> x.left(person, what));
+        asks("odds(" + i + ", 1, " + what + ")", x -> x.odds(person, 1, what));
+        asks("through(" + i + ", " + what + ")", x -> x.through(person, what));
+      }
+      asks("safest(1, " + what + ")", x -> x.safest(1, what));
+      asks("saves(2, " + what + ")", x -> x.saves(2, what));
+      asks("fits(2, 0, 0)", x -> x.fits(2, 0, 0));
+    }
+    for (int i = 0; i < 6; i++) {
+      int piece = i;
+      asks("as(" + i + ", 0)", x -> x.as(piece, 0));
+      asks("risk(" + i + ", 1)", x -> x.risk(piece, 1));
+      asks("pieceIs(1, " + i + ")", x -> x.pieceIs(1, piece));
+      asks("told(" + (i + 1) + ")", x -> x.told(piece + 1));
+      asks("count(" + i + ")", x -> x.count(piece));
+      asks("body(" + i + ")", x -> x.body(piece));
+    }
+    asks("counts(2)", x -> x.counts(2));
+    asks("counts(4)", x -> x.counts(4));
+    for (int what = 0; what < 5; what++) {
+      int asked = what;
+      asks("personIs(0, " + what + ")", x -> x.personIs(0, asked));
+    }
+    asks("law(0, 1, 2, 3)", x -> x.law(0, 1, 2, 3));
+    asks("law(1, 1, 2, 3)", x -> x.law(1, 1, 2, 3));
+    asks("judge(0)", x -> x.judge(0));
   }
 }
