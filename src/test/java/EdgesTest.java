@@ -430,6 +430,13 @@ public final class EdgesTest {
     gives(1, "c|b", MIN, 0, 0, 1);
     gives(1, "c&b", 2, 4, 0, 1);
     gives(1, "c&b", 2, 0, 0, 0);
+    gives(1, "(c|b)+5", 0, 0, 0, 5);
+    gives(1, "(c|b)+5", 9, 7, 0, 6);
+    gives(1, "(c&b)+5", 9, 0, 0, 5);
+    gives(1, "(c&b)+5", 9, 7, 0, 6);
+    gives(1, "(c<b)+(c=b)+(c>b)+!c+5", 5, 5, 0, 6);
+    gives(1, "(c<b)+(c=b)+(c>b)+!c+5", 5, 4, 0, 6);
+    gives(1, "(c<b)+(c=b)+(c>b)+!c+5", 4, 5, 0, 6);
     gives(1, "!c", MIN, 0, 0, 0);
     gives(1, "!c", 0, 0, 0, 1);
     says(0, "0 RISK: NAMES r how it SLIPS, c CARE, d the rest of DAY by 7; held within 0 .. 16; without a TEXT r (held "
