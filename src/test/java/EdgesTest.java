@@ -235,6 +235,7 @@ public final class EdgesTest {
     is("care 7", x.risk(0, 0), 0);
     x.minds(0, 9);
     is("care 9", x.risk(0, 0), 0);
+    is("0 and no less, by a text", by(0, "r+5", x).risk(0, 0), 5);
   }
 
   private static void countingAndBreaking() {
