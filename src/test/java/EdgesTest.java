@@ -31,6 +31,7 @@ public final class EdgesTest {
     firstAndFits();
     voicesThatWrap();
     voicesThatPart();
+    bodiesOfEachKind();
     traceAndSheets();
     promises1To5();
     promises6To12();
@@ -431,6 +432,12 @@ public final class EdgesTest {
     gives(1, "c|b", MIN, 0, 0, 1);
     gives(1, "c&b", 2, 4, 0, 1);
     gives(1, "c&b", 2, 0, 0, 0);
+    gives(1, "c&b", 0, 2, 0, 0);
+    gives(1, "c&b", 0, 0, 0, 0);
+    gives(1, "c&b", 1, 1, 0, 1);
+    gives(1, "c&b", -1, MIN, 0, 1);
+    gives(1, "c|b", 0, -1, 0, 1);
+    gives(1, "c|b", -1, 1, 0, 1);
     gives(1, "(c|b)+5", 0, 0, 0, 5);
     gives(1, "(c|b)+5", 9, 7, 0, 6);
     gives(1, "(c&b)+5", 9, 0, 0, 5);
@@ -547,10 +554,19 @@ public final class EdgesTest {
     out(by(0, "15", with(4, 1, 0, 0, 0, 0, 0, 0, 0, 0, 0)), 68719476735L, 68719476736L);
   }
 
+  private static NineBreakages twoOfCare(int first, int second) {
+    NineBreakages x = with(first, 9, 0);
+    x.person(second, 9);
+    return x;
+  }
+
   private static void safestAndSaves() {
     says(0, "SAFEST for a PIECE: in whose hands its RISK is least now; of several the least; how much.");
     NineBreakages x = with(0, 9, 9);
     is("one alone", x.safest(0, 0), 0);
+    is("the first of two", twoOfCare(9, 0).safest(0, 0), 0);
+    is("the second of two", twoOfCare(0, 9).safest(0, 0), 1);
+    is("the first of two alike", twoOfCare(5, 5).safest(0, 0), 0);
     is("how much", x.safest(0, 1), 16);
     for (int care : new int[] {0, 3, 3, 9}) {
       x.person(care, 0);
@@ -698,6 +714,32 @@ public final class EdgesTest {
       is("body " + i, x.body(i), want[i]);
     }
     is("no more", x.body(want.length), NONE);
+  }
+
+  /** The BODIES of a PIECE of a KIND that rings, slips, cracks and parts. */
+  private static void said(int kind, int[] rings, int[] slips, int[] cracks, int[] parts) {
+    NineBreakages x = with(4, 9, 10 * kind + 1);
+    int[][] want = {rings, slips, cracks, parts};
+    for (int voice = 0; voice < 4; voice++) {
+      x.voice(0, voice, 5);
+      bodies(x, want[voice]);
+    }
+  }
+
+  private static int[] trace(int... numbers) {
+    return numbers;
+  }
+
+  private static void bodiesOfEachKind() {
+    says(0, "rings(..) is the BODY of its KIND, or of the next KIND above that has one; super.rings(..) that from the "
+        + "KIND above the BODY's on.");
+    said(0, trace(10), trace(11, 10), trace(12, 11, 10), trace(13));
+    said(1, trace(20, 10), trace(11, 20, 10), trace(12, 11, 20, 10), trace(21, 13, 11, 20, 10));
+    said(2, trace(10), trace(30, 11, 10), trace(12, 30, 11, 10), trace(13));
+    said(3, trace(10), trace(11, 10), trace(40, 12, 11, 10), trace(13));
+    said(4, trace(50, 20, 10), trace(11, 50, 20, 10), trace(51, 12, 11, 50, 20, 10), trace(21, 13, 11, 50, 20, 10));
+    said(5, trace(10), trace(60, 30, 11, 10), trace(12, 60, 30, 11, 10), trace(13));
+    said(6, trace(70), trace(71, 11, 70), trace(12, 71, 11, 70), trace(13));
   }
 
   private static void traceAndSheets() {
